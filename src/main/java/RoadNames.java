@@ -197,7 +197,19 @@ public final class RoadNames {
             return FAULT_BASE - fault;
         }
         saves.push(town.state);
-        return carryOutAll();
+        int done = 0;
+        reader.restart();
+        for (int i = 0; i < text.length(); i++) {
+            reader.read(text.signAt(i));
+            if (reader.isBetweenCommands()) {
+                if (!canCarryOut()) {
+                    return done;
+                }
+                carryOut();
+                done++;
+            }
+        }
+        return done;
     }
 
     public int undo() throws IllegalStateException {
@@ -304,23 +316,6 @@ public final class RoadNames {
         return reader.isBetweenCommands() ? NONE : text.length();
     }
 
-    /** Carries out the commands of a text without a fault, up to the first that cannot be; answers how many. */
-    private int carryOutAll() {
-        int done = 0;
-        reader.restart();
-        for (int i = 0; i < text.length(); i++) {
-            reader.read(text.signAt(i));
-            if (reader.isBetweenCommands()) {
-                if (!canCarryOut()) {
-                    return done;
-                }
-                carryOut();
-                done++;
-            }
-        }
-        return done;
-    }
-
     /** Whether the command that was read last would throw no exception. */
     private boolean canCarryOut() {
         switch (reader.kind()) {
@@ -414,7 +409,7 @@ public final class RoadNames {
         private static final int LENGTH_MASK = 15;
 
         static int of(int letters, int length) {
-            return ((letters << fillBits(length)) << LENGTH_BITS) | length;
+            return (letters << bitsBehind(length)) | length;
         }
 
         static int length(int key) {
@@ -422,11 +417,7 @@ public final class RoadNames {
         }
 
         static int letters(int key) {
-            return firstLetters(key, length(key));
-        }
-
-        static int firstLetters(int key, int number) {
-            return (key >> LENGTH_BITS) >> fillBits(number);
+            return key >> bitsBehind(length(key));
         }
 
         static int lastLetters(int key, int number) {
@@ -435,16 +426,18 @@ public final class RoadNames {
 
         /** The beginning of a prefix, with at most as many letters as that has. */
         static int cut(int key, int length) {
-            return of(firstLetters(key, length), length);
+            int bits = bitsBehind(length);
+            return ((key >> bits) << bits) | length;
         }
 
         static boolean isBeginning(int beginning, int key) {
-            int length = length(beginning);
-            return length <= length(key) && cut(key, length) == beginning;
+            int bits = bitsBehind(length(beginning));
+            return length(beginning) <= length(key) && (beginning >> bits) == (key >> bits);
         }
 
-        private static int fillBits(int length) {
-            return 3 * (LONGEST_NAME - length);
+        /** How many bits stand behind so many first letters. */
+        private static int bitsBehind(int length) {
+            return LENGTH_BITS + 3 * (LONGEST_NAME - length);
         }
     }
 
@@ -601,6 +594,7 @@ public final class RoadNames {
         void survey() {
             int names = 0;
             for (int i = 0; i < state.houses; i++) {
+                parents.put(i, findParent(i));
                 surveyHouse(i);
                 if (state.isHome(i)) {
                     homes.put(names, i);
@@ -616,14 +610,12 @@ public final class RoadNames {
 
         private void surveyHouse(int index) {
             boolean home = state.isHome(index);
-            int parent = findParent(index);
-            parents.put(index, parent);
+            int parent = parents.at(index);
             children.put(index, 0);
-            roads.put(index, 0);
+            roads.put(index, index == 0 ? 0 : roads.at(parent) + 1);
             namesIn.put(index, home ? 1 : 0);
             weightIn.put(index, home ? state.weights.at(index) : 0);
             if (index > 0) {
-                roads.put(index, roads.at(parent) + 1);
                 children.increase(parent, 1);
             }
         }
@@ -760,7 +752,7 @@ public final class RoadNames {
             return added;
         }
 
-        /** Writes a house, and before it one for each prefix within its label, up to an end; answers where they begin. */
+        /** Writes a house behind one for each prefix within its label, up to an end; answers where they begin. */
         private int writeParted(int index, int end) {
             int key = state.keys.at(index);
             int length = Key.length(key);
@@ -880,7 +872,7 @@ public final class RoadNames {
             return walked;
         }
 
-        /** Homes stand at all ends, and the order of names leaves no part of the town twice: each road is walked twice. */
+        /** Each road is walked twice: names in their order lead into a part once, and each end of the tree is a home. */
         int tourRoads() {
             return 2 * (state.houses - 1);
         }

@@ -69,7 +69,8 @@ public final class ModelTest {
     }
 
     private int inRange(int from, int to) {
-        return random.nextInt(25) == 0 ? from - 2 + random.nextInt(to - from + 5) : from + random.nextInt(to - from + 1);
+        int beyond = random.nextInt(25) == 0 ? 2 : 0;
+        return from - beyond + random.nextInt(to - from + 1 + 2 * beyond);
     }
 
     private void change() {
@@ -90,8 +91,8 @@ public final class ModelTest {
             case 0, 1, 2, 3, 4 ->
                 both("add" + name + weight, () -> fast.add(l, n, weight), () -> slow.add(l, n, weight));
             case 5 -> both("remove" + name, () -> fast.remove(l, n), () -> slow.remove(l, n));
-            case 6 ->
-                both("setWeight" + name + weight, () -> fast.setWeight(l, n, weight), () -> slow.setWeight(l, n, weight));
+            case 6 -> both("setWeight" + name + weight,
+                () -> fast.setWeight(l, n, weight), () -> slow.setWeight(l, n, weight));
             case 7 -> both("setLimit " + limit, () -> fast.setLimit(limit), () -> slow.setLimit(limit));
             case 8, 9 -> moveOrEvict();
             case 10 -> both("compress", fast::compress, slow::compress);

@@ -57,10 +57,12 @@ public final class RoadNamesTest {
         typing();
         clearing();
         running();
+        runningMoves();
         runningUntilAFailure();
         faults();
         undoing();
         undoingEverything();
+        savingNothing();
         digests();
     }
 
@@ -253,6 +255,9 @@ public final class RoadNamesTest {
         check.due("torn down in all", town.whole(10), 4);
         check.due("remove the last one", remove(town, "h"), 1);
         check.due("houses", town.whole(1), 1);
+        add(town, "hhhhhhhh", 1);
+        check.due("remove eight houses", remove(town, "hhhhhhhh"), 8);
+        check.due("no houses but the root", town.whole(1), 1);
 
         RoadNames up = townOf("abcdef", "ab", "aef");
         up.compress();
@@ -694,6 +699,7 @@ public final class RoadNamesTest {
         check.due("weight of one digit", town.weight(letters("abcd"), 4), 5);
         check.due("no weight", town.weight(letters("abce"), 4), 0);
         check.due("weight of two digits", town.weight(7, 1), 99);
+        labelsAre("houses of the run", town, "ab:ab", "abc:c", "abcd:d", "abce:e", "h:h");
         check.due("remove and evict", run(town, "-h;>a;+b07;"), 3);
         check.due("weight 07", town.weight(1, 1), 7);
         labelsAre("houses", town, "a:a", "ab:b", "abc:c", "abcd:d", "abce:e", "b:b");
@@ -710,6 +716,15 @@ public final class RoadNamesTest {
             run(town, "+a;");
         }
         check.due("states of runs", town.undo(), 3);
+    }
+
+    private void runningMoves() {
+        RoadNames town = townOf("abcd", "efgh");
+        check.due("moveIn of a prefix", run(town, "<abc;<ef;"), 2);
+        labelsAre("moved in", town, "a:a", "ab:b", "abcd:cd", "e:e", "efg:fg", "efgh:h");
+        check.due("compress", run(town, "*;"), 1);
+        labelsAre("compressed", town, "ab:ab", "abcd:cd", "efg:efg", "efgh:h");
+        check.due("moved in, in all", town.whole(7), 4);
     }
 
     private void runningUntilAFailure() {
@@ -775,34 +790,48 @@ public final class RoadNamesTest {
         refused(town, "undo of an undo", town::undo, STATE);
     }
 
+    private interface Change {
+        int on(RoadNames town);
+    }
+
     private void undoingEverything() {
-        RoadNames town = townOf("abcd3", "abce4", "h5");
-        town.compress();
-        long before = town.digest();
-        town.type('x');
-        town.clearCommands();
-        List<Callable<Integer>> changes = List.of(
-                () -> add(town, "abhh", 9), () -> remove(town, "abcd"), () -> town.setWeight(7, 1, 9),
-                () -> town.setLimit(8), () -> evict(town, "a"), town::compress, town::expand, town::runCommands,
-                () -> run(town, "-h;>ab;<abc;+c;"));
+        List<Change> changes = List.of(town -> add(town, "abhh", 9), town -> remove(town, "abcd"),
+                town -> town.setWeight(7, 1, 9), town -> town.setLimit(8), town -> town.setLimit(3),
+                town -> moveIn(town, "ef"), town -> evict(town, "a"), RoadNames::compress, RoadNames::expand,
+                town -> run(town, "-h;>ab;<ef;+c;"), town -> run(town, ""), town -> run(town, "-c;"));
         for (int i = 0; i < changes.size(); i++) {
-            Check.answer(changes.get(i));
-            check.due("undo of change " + i, town.undo(), 3);
+            RoadNames town = new RoadNames();
+            check.due("run", run(town, "+abcd3;+abce4;+h5;*;+efgh6;<e;"), 6);
             town.clearCommands();
-            // The stack keeps four states: each change dropped the oldest, so that one more fills it up.
-            town.setLimit(3);
+            long before = town.digest();
+            changes.get(i).on(town);
+            town.clearCommands();
+            check.due("undo of change " + i, town.undo(), 1);
             check.due("as before change " + i, town.digest(), before);
         }
-        town.evict(0, 1);
-        int built = town.whole(8);
-        moveIn(town, "a");
-        check.due("undo of moveIn", town.undo(), 3);
-        check.due("it is evicted still", town.whole(8), built);
-        check.due("it has not moved in", houseOf(town, "a"), 1);
+    }
+
+    private void savingNothing() {
+        RoadNames town = townOf("abc", "abd");
+        town.rank(0, 1);
+        town.nth(0, 0);
+        town.weight(0, 1);
+        town.count(0, 1);
+        town.house(0, 0);
+        town.houseOf(0, 1);
+        town.between(0, 1);
         town.tour();
-        town.costWith(2);
+        town.whole(3);
+        town.reason(0, 1);
+        town.savedBy(0);
         town.bestMove();
-        check.due("what changes nothing saves nothing", town.undo(), 2);
+        town.costWith(2);
+        town.housesFor(0, 1);
+        run(town, "+");
+        town.clearCommands();
+        town.digest();
+        check.due("only changes save", town.undo(), 1);
+        check.due("the last change is undone", town.whole(0), 1);
     }
 
     // ---- 28 digest
