@@ -872,7 +872,7 @@ public final class RoadNames {
             return walked;
         }
 
-        /** Each road is walked twice: names in their order lead into a part once, and each end of the tree is a home. */
+        /** Each road is walked twice: names in order lead into a part once, and each end is a home. */
         int tourRoads() {
             return 2 * (state.houses - 1);
         }
