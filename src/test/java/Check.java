@@ -4,6 +4,24 @@ import java.util.concurrent.Callable;
 final class Check {
     private int passed = 0;
     private int failed = 0;
+    private int sentences = 0;
+    private int before = 0;
+    private String sentence = "";
+
+    /** What is checked from here on tests this sentence of the document. */
+    void about(String next) {
+        endSentence();
+        sentences++;
+        sentence = next;
+        before = passed + failed;
+    }
+
+    private void endSentence() {
+        if (sentences > 0 && passed + failed == before) {
+            failed++;
+            System.out.println("nothing is checked of: " + sentence);
+        }
+    }
 
     void due(String what, long got, long want) {
         tell(what, String.valueOf(got), String.valueOf(want));
@@ -22,7 +40,8 @@ final class Check {
             passed++;
         } else {
             failed++;
-            System.out.println(what + " answered " + got + ", due is " + want);
+            String of = sentence.isEmpty() ? "" : sentence + ": ";
+            System.out.println(of + what + " answered " + got + ", due is " + want);
         }
     }
 
@@ -36,7 +55,8 @@ final class Check {
     }
 
     void end(String name) {
-        System.out.println(name + ":");
+        endSentence();
+        System.out.println(name + (sentences > 0 ? ", of " + sentences + " sentences:" : ":"));
         System.out.println(passed + " passed, " + failed + " failed");
         if (failed > 0) {
             System.exit(1);

@@ -1,14 +1,7 @@
 import java.util.List;
-import java.util.concurrent.Callable;
 
 /** For each promise of the document its ordinary inputs, the edges that it names, and wrong inputs. */
-public final class RoadNamesTest {
-    private static final Class<IllegalArgumentException> ARGUMENT = IllegalArgumentException.class;
-    private static final Class<IllegalStateException> STATE = IllegalStateException.class;
-    private static final Class<IndexOutOfBoundsException> INDEX = IndexOutOfBoundsException.class;
-
-    private final Check check = new Check();
-
+public final class RoadNamesTest extends TownCase {
     public static void main(String[] args) {
         RoadNamesTest test = new RoadNamesTest();
         test.promises1To9();
@@ -66,101 +59,6 @@ public final class RoadNamesTest {
         digests();
     }
 
-    // ---- helpers
-
-    private static int letters(String name) {
-        int letters = 0;
-        for (char letter : name.toCharArray()) {
-            letters = letters * 8 + (letter - 'a');
-        }
-        return letters;
-    }
-
-    private static int add(RoadNames town, String name, int weight) {
-        return town.add(letters(name), name.length(), weight);
-    }
-
-    private static int remove(RoadNames town, String name) {
-        return town.remove(letters(name), name.length());
-    }
-
-    private static int moveIn(RoadNames town, String prefix) {
-        return town.moveIn(letters(prefix), prefix.length());
-    }
-
-    private static int evict(RoadNames town, String prefix) {
-        return town.evict(letters(prefix), prefix.length());
-    }
-
-    private static int houseOf(RoadNames town, String prefix) {
-        return town.houseOf(letters(prefix), prefix.length());
-    }
-
-    private static int reason(RoadNames town, String prefix) {
-        return town.reason(letters(prefix), prefix.length());
-    }
-
-    private static int housesFor(RoadNames town, String name) {
-        return town.housesFor(letters(name), name.length());
-    }
-
-    private static RoadNames townOf(String... names) {
-        RoadNames town = new RoadNames();
-        for (String name : names) {
-            String word = name.replaceAll("[0-9]", "");
-            String weight = name.replaceAll("[a-h]", "");
-            add(town, word, weight.isEmpty() ? 0 : Integer.parseInt(weight));
-        }
-        return town;
-    }
-
-    private static int run(RoadNames town, String commands) {
-        town.clearCommands();
-        for (char sign : commands.toCharArray()) {
-            town.type(sign);
-        }
-        return town.runCommands();
-    }
-
-    /** A call that throws has to leave the town as it was, the undo stack too. */
-    private void refused(RoadNames town, String what, Callable<Integer> call,
-            Class<? extends RuntimeException> due) {
-        long before = town.digest();
-        check.throwing(what, call, due);
-        check.due(what + ", digest behind it", town.digest(), before);
-    }
-
-    /** The letters and lengths that no name or prefix has. */
-    private interface OfPrefix {
-        int call(int letters, int length);
-    }
-
-    private void refusesNames(RoadNames town, String what, OfPrefix call, boolean emptyToo) {
-        int[][] wrong = {{0, -1}, {0, 9}, {-1, 1}, {8, 1}, {64, 2}, {1 << 24, 8}, {-1, 8}, {1, 0}, {-1, 0},
-            {0, Integer.MIN_VALUE}, {0, Integer.MAX_VALUE}, {Integer.MIN_VALUE, 8}, {Integer.MAX_VALUE, 8}, {0, 32}};
-        for (int[] pair : wrong) {
-            refused(town, what + " of " + pair[0] + ", " + pair[1], () -> call.call(pair[0], pair[1]), ARGUMENT);
-        }
-        if (emptyToo) {
-            refused(town, what + " of no letters", () -> call.call(0, 0), ARGUMENT);
-        }
-    }
-
-    private void wholeIs(String what, RoadNames town, int... want) {
-        for (int i = 0; i < want.length; i++) {
-            check.due(what + ": whole(" + i + ")", town.whole(i), want[i]);
-        }
-    }
-
-    private void labelsAre(String what, RoadNames town, String... want) {
-        StringBuilder got = new StringBuilder();
-        for (int i = 1; i < town.whole(1); i++) {
-            got.append(SlowTown.word(town.house(i, 0), town.house(i, 1))).append(':')
-                    .append(SlowTown.word(town.house(i, 2), town.house(i, 3))).append(' ');
-        }
-        check.tell(what, got.toString().trim(), String.join(" ", want));
-    }
-
     // ---- 1 A new object
 
     private void newObject() {
@@ -211,14 +109,6 @@ public final class RoadNamesTest {
         check.due("a prefix that is no name can be added", add(town, "a", 0), 0);
     }
 
-    private static RoadNames fullTown() {
-        RoadNames town = new RoadNames();
-        for (int i = 0; i < 24; i++) {
-            town.add(i / 8 * 512 + i % 8, 4, i);
-        }
-        return town;
-    }
-
     private void addingTwentyFour() {
         RoadNames town = fullTown();
         check.due("24 names", town.whole(0), 24);
@@ -228,15 +118,6 @@ public final class RoadNamesTest {
         remove(town, "aaaa");
         check.due("room again", add(town, "hhh", 1), 23);
         check.due("the most houses: 24 names of 8 letters", mostHouses().whole(1), 8 + 24 * 7 + 1);
-    }
-
-    /** Names that have nothing in common but their first letters, and these only where there are no more. */
-    private static RoadNames mostHouses() {
-        RoadNames town = new RoadNames();
-        for (int i = 0; i < 24; i++) {
-            town.add((i % 8) << 21 | (i / 8) << 18 | i, 8, 99);
-        }
-        return town;
     }
 
     // ---- 3 remove
@@ -790,10 +671,6 @@ public final class RoadNamesTest {
         refused(town, "undo of an undo", town::undo, STATE);
     }
 
-    private interface Change {
-        int on(RoadNames town);
-    }
-
     private void undoingEverything() {
         List<Change> changes = List.of(town -> add(town, "abhh", 9), town -> remove(town, "abcd"),
                 town -> town.setWeight(7, 1, 9), town -> town.setLimit(8), town -> town.setLimit(3),
@@ -851,18 +728,5 @@ public final class RoadNamesTest {
         check.due("digest changes nothing", town.digest(), before);
         int[] empty = {0, 0, 1, 3, 0, 0, 0, 0, 0, 0, 0, 0, 0, 0, 0, 0, 0, 0, 0, 0, 0, 0, -1, 0, -1};
         check.due("digest of a new town", new RoadNames().digest(), mix(43504, empty));
-    }
-
-    private static long mix(long hash, int[]... values) {
-        for (int[] row : values) {
-            for (int value : row) {
-                hash = mix(hash, value);
-            }
-        }
-        return hash;
-    }
-
-    private static long mix(long hash, long value) {
-        return 31 * hash + value;
     }
 }
