@@ -495,6 +495,35 @@ public final class PromiseEdgeTest extends TownCase {
         check.due("a home with a name below, 6", townOf("a3", "ab4").house(1, 6), 2);
         check.due("a home with a name below, 7", townOf("a3", "ab4").house(1, 7), 7);
         check.due("8, the most roads", most.house(176, 8), 8);
+        childrenAndRoads();
+    }
+
+    private void childrenAndRoads() {
+        check.about("14 4 number of its children, 5 1 if it is a home or 0 if not");
+        RoadNames empty = new RoadNames();
+        check.due("no children of the root", empty.house(0, 4), 0);
+        check.due("the root is no home", empty.house(0, 5), 0);
+        RoadNames full = fullTown();
+        check.due("eight children", full.house(houseOf(full, "aaa"), 4), 8);
+        check.due("one child", full.house(houseOf(full, "aa"), 4), 1);
+        check.due("no children of the last home", full.house(full.whole(1) - 1, 4), 0);
+        remove(full, "aaab");
+        add(full, "aaa", 0);
+        check.due("a home with seven children", full.house(houseOf(full, "aaa"), 4), 7);
+        check.due("it is one", full.house(houseOf(full, "aaa"), 5), 1);
+        remove(full, "aaa");
+        check.due("it is none any more", full.house(houseOf(full, "aaa"), 5), 0);
+        check.about("14 8 roads from the root");
+        check.due("none of the root", empty.house(0, 8), 0);
+        RoadNames town = townOf(MOST);
+        town.setLimit(8);
+        for (int roads = 8; roads >= 1; roads--) {
+            check.due("its last house, " + roads, town.house(roads, 8), roads);
+            check.due("its first house, " + roads, town.house(1, 8), 1);
+            if (roads > 1) {
+                moveIn(town, MOST.substring(0, 9 - roads));
+            }
+        }
     }
 
     // ---- 15 houseOf
@@ -625,6 +654,33 @@ public final class PromiseEdgeTest extends TownCase {
         check.due("by expand()", all.whole(8), 3 + 4);
         add(all, "abcde", 0);
         check.due("by none", all.whole(8), 7);
+        builtAndTornDown();
+    }
+
+    private void builtAndTornDown() {
+        check.about("18 9 houses that were built, in all, 10 houses that were torn down, in all");
+        RoadNames town = new RoadNames();
+        int built = 0;
+        for (int length = 1; length <= 8; length++) {
+            town.add(lastOf(length), length, 0);
+            town.remove(lastOf(length), length);
+            built += length;
+            check.due("built up to length " + length, town.whole(9), built);
+            check.due("torn down up to length " + length, town.whole(10), built);
+        }
+        refused(town, "a refused name", () -> town.add(8, 1, 0), ARGUMENT);
+        refused(town, "a name that is not there", () -> remove(town, MOST), STATE);
+        check.due("by a run", run(town, "+abcdefgh;-abcdefgh;+a;"), 3);
+        wholeIs("behind a run", town, 1, 2, 3, 0, 1, 1, 1, 0, 0, built + 9, built + 8, 23);
+        add(town, "abc", 0);
+        town.compress();
+        evict(town, "ab");
+        town.expand();
+        check.due("none is built by houses that are evicted", town.whole(9), built + 11);
+        check.due("none is torn down by houses that move in", town.whole(10), built + 8);
+        check.due("none by a question", housesFor(town, MOST), 5);
+        town.costWith(1);
+        wholeIs("behind questions", town, 2, 4, 3, 0, 3, 1, 3, 1, 1, built + 11, built + 8, 23);
     }
 
     // ---- 19 reason
